@@ -9,6 +9,7 @@ public final class PromisesTest {
     promise1NewObject();
     promise2Piece();
     promise3Row();
+    theSixtiethRow();
     promise4Grid();
     promise4GridFull();
     promise5PutByBases();
@@ -129,6 +130,23 @@ public final class PromisesTest {
     due("3 FULL ahead of SIZE", d.row(PIECE, 1, -1), FULL);
     due("3 BAD ahead of FULL", d.row(PIECE, 1, 9), BAD);
     dueFailures("3 no more of them", d, 3, 5);
+  }
+
+  /** Promises 3, 13, 16: the last place of the last THING is the last of all. */
+  private static void theSixtiethRow() {
+    DepotTrays d = new DepotTrays();
+    fill(d, 58);
+    due("3 a vase", d.piece(VASE, 3), 58);
+    due("3 the sixtieth", d.row(PIECE, 1, 8), 59);
+    for (int i = 0; i < 8; i++) due("5 a vase into " + i, d.put(59, i, 58), 1);
+    due("5 index 8", d.put(59, 8, 58), INDEX);
+    due("13 eight vases", d.worth(59), 48);
+    due("16 eight vases", d.frail(59), 8);
+    due("20 clear", d.clear(), 60);
+    fill(d, 59);
+    due("3 the sixtieth with fewer places", d.row(PIECE, 1, 7), 59);
+    due("13 nothing", d.worth(59), 0);
+    due("16 nothing", d.frail(59), 0);
   }
 
   private static void promise4Grid() {
