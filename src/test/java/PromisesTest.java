@@ -350,9 +350,9 @@ public final class PromisesTest {
   }
 
   private static void promise9Is() {
-    DepotTrays d = withPieces();
     String[] want = {"1000000", "1100100", "1010000", "1011100", "0000100", "0000010", "0000001"};
     for (int base = PIECE; base <= LONG; base++) {
+      DepotTrays d = withPieces();
       for (int depth = base >= FRAIL ? 1 : 0; depth <= (base >= INT ? 2 : 3); depth++) {
         int x = depth == 0 ? base : d.row(base, depth, 1);
         for (int b = PIECE; b <= LONG; b++) {
@@ -365,7 +365,7 @@ public final class PromisesTest {
         }
       }
     }
-    d = withPieces();
+    DepotTrays d = withPieces();
     due("9 NONE", d.is(NONE, PIECE, 0), 0);
     due("9 NONE and a bad depth", d.is(NONE, LONG, 3), BAD);
     due("9 x -2", d.is(-2, PIECE, 0), BAD);
