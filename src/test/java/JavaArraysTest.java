@@ -295,12 +295,13 @@ public final class JavaArraysTest {
     return upTo(0, 19) == 0 ? upTo(-2, last + 1) : oneOf(Math.min(0, last), last);
   }
 
-  private static void step(String at, Model m, DepotTrays d) {
-    int x = thing(m), y = thing(m), i = oneOf(0, 4), j = oneOf(0, 3), n = oneOf(0, 4);
+  private static void step(String at, Model m, DepotTrays d, int widest) {
+    int x = thing(m), y = thing(m), i = oneOf(0, widest), j = oneOf(0, widest - 1), n = oneOf(0, widest);
+    int what = oneOf(0, 2);
     int base = oneOf(0, 6), depth = oneOf(0, 3), k = oneOf(0, 7);
     long v = upTo(0, 1) == 0 ? upTo(-9, 9) : seed;
     String with = at + " x " + x + " y " + y + " i " + i + " j " + j + " n " + n + " base " + base
-        + " depth " + depth + " k " + k + " v " + v + " ";
+        + " depth " + depth + " k " + k + " v " + v + " what " + what + " ";
     switch (upTo(0, 30)) {
       case 0: Due.due(with + "piece", d.piece(base, (int) v), m.piece(base, (int) v)); break;
       case 1: Due.due(with + "row", d.row(base, depth, n), m.row(base, depth, n)); break;
@@ -318,9 +319,9 @@ public final class JavaArraysTest {
       case 9: Due.due(with + "worth", d.worth(x), m.worth(x)); break;
       case 10: Due.due(with + "copy", d.copy(x), m.copy(x)); break;
       case 11: Due.due(with + "frail", d.frail(x), m.frail(x)); break;
-      case 12: Due.due(with + "about", d.about(x, j), m.about(x, j)); break;
+      case 12: Due.due(with + "about", d.about(x, what), m.about(x, what)); break;
       case 13: Due.due(with + "bases", d.bases(x), m.bases(x)); break;
-      case 14: Due.due(with + "count", d.count(j), m.count(j)); break;
+      case 14: Due.due(with + "count", d.count(what), m.count(what)); break;
       case 15: case 16: Due.due(with + "set", d.set(x, i, v), m.set(x, i, v)); break;
       case 17:
         if (upTo(0, 7) == 0) Due.due(with + "clear", d.clear(), m.clear());
@@ -337,7 +338,7 @@ public final class JavaArraysTest {
       Model m = new Model();
       DepotTrays d = new DepotTrays();
       for (int call = 0; call < CALLS; call++) {
-        step("run " + run + ", call " + call + ":", m, d);
+        step("run " + run + ", call " + call + ":", m, d, run % 2 == 0 ? 4 : 8);
       }
     }
     Due.end();

@@ -1,6 +1,7 @@
-/** The sentences under "Terms" that name an edge. */
+/** The sentences ahead of the promises that name an edge. */
 public final class TermsEdgesTest extends Edges {
   public static void main(String[] args) {
+    said("An object is used for at most 512 calls after it has been made", TermsEdgesTest::lastCall);
     said("THINGS 0, 1, .. (60 at most) have a base and a DEPTH.", TermsEdgesTest::sixtyThings);
     said("PIECES have base 0 to 3, DEPTH 0, a WORTH (an int).", TermsEdgesTest::pieceKinds);
     said("ROWS have DEPTH 1 to 3 (of bases 5, 6: 1, 2) and 0 to 8 PLACES", TermsEdgesTest::rowKinds);
@@ -22,6 +23,12 @@ public final class TermsEdgesTest extends Edges {
 
   private static void said(String text, Runnable test) {
     Due.sentence("Terms", text, test);
+  }
+
+  private static void lastCall() {
+    DepotTrays d = new DepotTrays();
+    for (int call = 1; call < 512; call++) due("call " + call, d.get(NONE, 0), NULL);
+    due("the 512th call", d.count(1), 511);
   }
 
   private static void sixtyThings() {
